@@ -46,6 +46,11 @@ public final class FaultsTest {
         groundFault("^Ground 2 2", 0);
         groundFault("^grounds 2 2", 0);
         groundFault("^groun 2 2", 0);
+        groundFault("^groundz 2 2", 0);
+        groundFault("ground^{2 2", 0);
+        groundFault("ground^`2 2", 0);
+        groundFault("ground ^/2 2", 0);
+        groundFault("ground 2 2^:", 0);
         groundFault(" ^g", 0);
         groundFault("ground^", 0);
         groundFault("ground ^", 0);

@@ -1,3 +1,6 @@
+import java.util.ArrayList;
+import java.util.List;
+
 /**
  * Each promise, with ordinary inputs, the edges that the document names, and wrong inputs. What is due was
  * worked out by hand from the document.
@@ -467,6 +470,48 @@ public final class PromisesTest {
         }
         is("no more", walker.undo(), -2);
         is("five walks stay", walker.person(0, 0), 1);
+        manyActsUndone();
+    }
+
+    /** Acts of all kinds, more than can be undone; an image of them, gone back to behind others. */
+    private static void manyActsUndone() {
+        FallSchool s = school("ground 3 2;row 210;row 333;person 0 0;person 3 0;thing 2 9 1 5;thing 1 9 1 6;thing 0 9 1 7");
+        List<String> before = new ArrayList<>();
+        int act = 0;
+        while (before.size() < 37) {
+            tryAct(s, act++, before);
+        }
+        s.image(0);
+        for (int i = 0; i < 40; i++) {
+            tryAct(s, 7 * i + 3, new ArrayList<>());
+        }
+        s.back(0);
+        for (int i = 19; i >= 0; i--) {
+            is("undo of many, " + i, s.undo(), i);
+            String due = before.get(before.size() - 20 + i);
+            yes("all as it was: " + due + ", not " + places(s), places(s).equals(due), true);
+        }
+        is("the 21st can't be undone", s.undo(), -2);
+    }
+
+    private static void tryAct(FallSchool s, int act, List<String> before) {
+        String places = places(s);
+        int person = act % 2;
+        int thing = act % 3;
+        boolean happens = switch (act % 4) {
+            case 0 -> s.fall(person, act % 5) >= 0;
+            case 1 -> s.put(thing, act % 6) >= 0;
+            case 2 -> s.walk(act / 4 % 2, act / 8 % 4) >= 0;
+            default -> s.mend(thing);
+        };
+        if (happens) {
+            before.add(places);
+        }
+    }
+
+    private static String places(FallSchool s) {
+        return s.person(0, 0) + " " + s.person(1, 0) + ", " + s.thing(0, 0) + " " + s.thing(1, 0) + " " + s.thing(2, 0)
+                + ", " + s.count(9);
     }
 
     /** Promise 15. */

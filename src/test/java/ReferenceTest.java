@@ -52,6 +52,8 @@ public final class ReferenceTest {
                     tellRule();
                 } else if (pick < 40) {
                     act();
+                } else if (pick == 40) {
+                    actAndUndo();
                 } else {
                     ask();
                 }
@@ -84,14 +86,29 @@ public final class ReferenceTest {
             same("end", school.end(text.length()), reference.end(text.length()));
         }
 
+        /** More acts than can be undone, perhaps an image among them, and then all undone one by one. */
+        void actAndUndo() {
+            for (int i = 10 + random.nextInt(60); i > 0; i--) {
+                act();
+            }
+            for (int i = 0; i < 21; i++) {
+                same("undo()", school.undo(), reference.undo());
+                int thing = random.nextInt(8);
+                int person = random.nextInt(5);
+                same("count(9)", school.count(9), reference.count(9));
+                same("thing(" + thing + ", 0)", school.thing(thing, 0), reference.thing(thing, 0));
+                same("person(" + person + ", 0)", school.person(person, 0), reference.person(person, 0));
+            }
+        }
+
         void act() {
             int a = near(5);
             int b = near(5);
             int thing = near(8);
             int cell = near(50);
             boolean flag = random.nextBoolean();
-            switch (random.nextInt(11)) {
-                case 0, 1, 2 -> same("fall(" + a + ", " + b + ")", school.fall(a, b), reference.fall(a, b));
+            switch (random.nextInt(12)) {
+                case 0, 1, 2, 11 -> same("fall(" + a + ", " + b + ")", school.fall(a, b), reference.fall(a, b));
                 case 3 -> same("walk(" + a + ", " + b + ")", school.walk(a, b), reference.walk(a, b));
                 case 4 -> same("put(" + thing + ", " + cell + ")", school.put(thing, cell), reference.put(thing, cell));
                 case 5 -> same("mend(" + thing + ")", school.mend(thing) ? 1 : 0, reference.mend(thing) ? 1 : 0);
