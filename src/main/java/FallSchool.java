@@ -1584,7 +1584,6 @@ public final class FallSchool {
                     fall.push = push;
                     fall.broke = broke;
                     fall.steps = depth;
-                    fall.isNetted = false;
                 }
             }
         }

@@ -1,3 +1,6 @@
+import java.util.ArrayList;
+import java.util.List;
+
 /**
  * The boundaries of promises 7 to 14, and of what the document's Terms, part II, tell of cells, falls, marks and acts.
  * Each test's remark quotes the sentence that it holds; RemarksTest finds these words in the document.
@@ -475,6 +478,8 @@ public final class BoundaryActsTest {
         Checks.is("the first without a test", s.would(0, 4, 0), 94);
         s.force(Checks.rule(s, "break 1=2;mark 50"));
         Checks.is("nothing broke", s.would(0, 4, 0), 100);
+        s.force(Checks.rule(s, "mark 20;break thing=2"));
+        Checks.is("a mark ahead of a break", s.would(0, 4, 0), 80);
     }
 
     /** Promise 10, Terms: "(WORDS as when it broke; 0 without; held to 0 to 100)" */
@@ -571,5 +576,40 @@ public final class BoundaryActsTest {
             Checks.is("a new act", s.put(0, 47), acts - can);
             Checks.is("can be undone", s.undo(), 0);
         }
+    }
+
+    /** Promise 14, Terms: "The last 20 ACTS can be UNDONE, the last first." */
+    private static void actsOfAllKindsCanBeUndone() {
+        FallSchool s = Checks.school("ground 3 2;row 210;row 333" + ";person 0 0".repeat(5) + ";thing 2 9 1 5".repeat(8));
+        List<String> before = new ArrayList<>();
+        for (int i = 0; before.size() < 50; i++) {
+            String places = places(s);
+            boolean happens = switch (i % 5) {
+                case 0 -> s.fall(i % 4 + 1, 4) >= 0;
+                case 1 -> s.mend(i / 5 % 8);
+                case 2 -> s.put(i / 5 % 8, i / 3 % 6) >= 0;
+                case 3 -> s.walk(i % 4 + 1, 3) >= 0;
+                default -> s.walk(0, i / 5 % 4) >= 0;
+            };
+            if (happens) {
+                before.add(places);
+            }
+        }
+        for (int i = 0; i < 20; i++) {
+            Checks.is("undo", s.undo(), 19 - i);
+            Checks.same("as ahead of it", places(s), before.get(49 - i));
+        }
+        Checks.is("the 21st can't be", s.undo(), -2);
+    }
+
+    private static String places(FallSchool s) {
+        StringBuilder seen = new StringBuilder("broken ").append(s.count(9));
+        for (int person = 0; person < 5; person++) {
+            seen.append(' ').append(s.person(person, 0));
+        }
+        for (int thing = 0; thing < 8; thing++) {
+            seen.append(' ').append(s.thing(thing, 0));
+        }
+        return seen.toString();
     }
 }

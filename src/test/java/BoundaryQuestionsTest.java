@@ -187,6 +187,8 @@ public final class BoundaryQuestionsTest {
         FallSchool net = Checks.school("ground 4 2;row 9510;row 9999;person 0 0;thing 2 9 1 50;thing 3 9 1 5;net 2");
         Checks.is("till the net, in which nothing breaks", net.way(0, -1), 0);
         Checks.is("in two steps", net.way(0, -2), 2);
+        Checks.is("a fall into the net", net.would(0, 4, 3), 2);
+        Checks.is("is no part of the way", net.way(0, -2), 2);
         FallSchool level = Checks.school("ground 2 2;row 55;row 50;person 0 0;person 1 0");
         Checks.is("a level cell is not lower", level.way(0, -2), 0);
         Checks.is("down", level.way(1, 0), 2);
@@ -219,6 +221,10 @@ public final class BoundaryQuestionsTest {
         FallSchool hard = Checks.school(text + ";thing 5 9 9 7");
         Checks.is("force 9 is hard 9", hard.way(0, -1), 7);
         Checks.is("hard 10 stays whole", Checks.school(text + ";thing 5 9 10 7").way(0, -1), 0);
+        // To the right one falls by 9, down by 1: each way has its own force.
+        FallSchool own = Checks.school("ground 2 2;row 90;row 89;person 0 0;thing 1 9 1 10;thing 2 9 2 3");
+        Checks.is("force 1 against hard 2", own.way(0, -1), 0);
+        Checks.is("down", own.way(0, 0), 2);
     }
 
     /** Promise 17, Terms: "of several the fewest STEPS, of these the first (as a row of SIDES)." */
@@ -251,7 +257,8 @@ public final class BoundaryQuestionsTest {
         Checks.is("one", s.clue(0, true), 1);
         Checks.is("the same again", s.clue(0, true), 2);
         Checks.is("the last thing", s.clue(2, false), 3);
-        Checks.is("so many", s.count(10), 3);
+        Checks.is("that it did not", s.clue(0, false), 4);
+        Checks.is("so many", s.count(10), 4);
         Checks.is("none", s.clue(-1, false), 0);
         Checks.is("none are there", s.count(10), 0);
         Checks.is("none tells anything", s.from(0, 0), 40);
@@ -290,8 +297,15 @@ public final class BoundaryQuestionsTest {
         s.clue(-1, true);
         s.clue(0, false);
         Checks.is("it does not from 1 and 2", s.from(0, 0), 10);
+        s.clue(1, false);
+        Checks.is("none of both", s.from(0, 0), 10);
         s.clue(1, true);
+        s.clue(0, true);
         Checks.is("what never breaks", s.from(0, 0), 0);
+        s.clue(-1, true);
+        s.clue(1, true);
+        s.clue(0, true);
+        Checks.is("a clue ahead of another holds too", s.from(0, 0), 0);
         FallSchool all = Checks.school(PIT + ";person 2 0" + ";thing 1 9 9 1".repeat(8));
         for (int thing = 0; thing < 8; thing++) {
             Checks.is("clue of thing " + thing, all.clue(thing, true), thing + 1);
@@ -344,16 +358,19 @@ public final class BoundaryQuestionsTest {
         FallSchool self = Checks.school(PIT + ";person 1 0;thing 1 9 1 1", "break people=0");
         self.clue(0, true);
         Checks.is("who falls is no other, wherever they are", self.from(0, 0), 10);
+        FallSchool last = Checks.school(PIT + ";person 0 0".repeat(4) + ";person 1 0;thing 1 9 1 1", "break people=0");
+        last.clue(0, true);
+        Checks.is("nor is the last person", last.from(4, 0), 10);
         FallSchool other = Checks.school(PIT + ";person 1 0;thing 1 9 1 1;person 0 0", "break people=0");
         other.clue(0, true);
         Checks.is("for the other one there is somebody", other.from(1, 0), 0);
         Checks.is("the greatest ground", Checks.school("ground 8 6;person 0 0").from(0, 0), 240);
-        FallSchool last = Checks.school("ground 2 2;row 99;row 19;person 0 0;thing 2 9 1 1;thing 1 9 1 1", "break own=0");
-        last.clue(0, true);
-        Checks.is("from 0 and 3", last.from(0, 0), 10);
-        Checks.is("by cells first", last.from(0, 1), 0);
-        last.put(0, 1);
-        Checks.is("nothing falls to 1", last.from(0, 1), -2);
+        FallSchool low = Checks.school("ground 2 2;row 99;row 19;person 0 0;thing 2 9 1 1");
+        low.clue(0, true);
+        Checks.is("from 0 and 3", low.from(0, 0), 10);
+        Checks.is("by cells first", low.from(0, 1), 0);
+        low.put(0, 1);
+        Checks.is("nothing falls to 1", low.from(0, 1), -2);
     }
 
     /** Promise 20: "SHARD what 0: the THING, 1: how many; -2: there is none to fall from, or no THING." */
@@ -452,6 +469,10 @@ public final class BoundaryQuestionsTest {
             Checks.is("three" + nets, s.trays(3, 0), 1);
             Checks.is("third", s.trays(3, 3), 3);
         }
+        FallSchool again = Checks.school("ground 2 2");
+        Checks.is("on level ground all", again.trays(3, 0), 4);
+        Checks.ground(again, "ground 2 2;row 90;row 12");
+        Checks.is("none of these is left", again.trays(3, 0), 1);
         // 3 leads to 0 by 2: a cell far down the fall, and behind in numbers.
         FallSchool far = Checks.school("ground 2 2;row 19;row 23");
         Checks.is("1 and 3 lead to 0 and 2, 2 to 0: 1 2, 1 3", far.trays(2, 0), 2);
@@ -508,6 +529,10 @@ public final class BoundaryQuestionsTest {
         Checks.is("right would let the other win: down", other.game(0, 1), 2);
         FallSchool level = Checks.school("ground 2 2;row 55;row 55");
         Checks.is("level cells are not lower", level.game(0, 0), 0);
+        FallSchool first = Checks.school("ground 2 2;row 10;row 23");
+        Checks.is("from 2 one can only go to 0, from where the other goes to 1", first.game(2, 0), 0);
+        Checks.ground(first, "ground 2 2;row 01;row 23");
+        Checks.is("on another ground 0 is the end", first.game(2, 1), 0);
         FallSchool left = Checks.school("ground 2 2;row 09;row 99");
         Checks.is("left", left.game(1, 1), 3);
         Checks.is("up", left.game(2, 1), 0);
@@ -546,6 +571,7 @@ public final class BoundaryQuestionsTest {
         }
         fraction(four, 0, 3, 1, 2);
         fraction(four, 0, 8, 0, 1);
+        fraction(Checks.school("ground 2 2;row 10;row 23"), 2, 1, 1, 1);
         FallSchool three = Checks.school("ground 3 3;row 919;row 199;row 919");
         fraction(three, 4, 7, 1, 3);
         fraction(three, 4, 5, 0, 1);
@@ -595,6 +621,10 @@ public final class BoundaryQuestionsTest {
         Checks.is("1 in one fall is above 0, and 8 in two", one.insure(0, 0), 3);
         Checks.is("8 in two falls, up and right, is above 12", one.insure(0, 3), 2);
         Checks.is("16 is not above 16", one.insure(0, 4), 0);
+        // Up is lower, right is lowest: of the falls with sides 0 to 3 that to the right alone comes to 5.
+        FallSchool right = Checks.school("ground 3 3;row 989;row 890;row 989;person 4 0;thing 5 9 1 8");
+        Checks.is("8 in one fall is above 4", right.insure(0, 1), 1);
+        Checks.is("and not above 8: leaning to none is no such fall", right.insure(0, 2), 0);
         Checks.is("on a floor nothing breaks", Checks.school(PIT + ";person 1 0;thing 1 9 1 60", "break 1=1").insure(0, 0), 0);
     }
 
@@ -898,8 +928,13 @@ public final class BoundaryQuestionsTest {
         s.force(1);
         s.seed(9);
         s.clue(-1, true);
-        s.undo();
-        s.undo();
+        s.clue(2, false);
+        while (s.undo() >= 0) {
+            s.count(11);
+        }
+        s.put(0, 7);
+        s.put(0, 6);
+        s.put(0, 5);
         s.fall(1, 4);
         Checks.ground(s, "ground 2 2;person 3 0;lesson 9");
         s.walk(0, 0);
@@ -917,5 +952,29 @@ public final class BoundaryQuestionsTest {
         Checks.same("all is as in it", Checks.sight(s), before);
         Checks.is("the others stay too", s.back(2), 1);
         Checks.same("and are alike", Checks.sight(s), before);
+    }
+
+    /**
+     * Promise 31, Terms: "IMAGES 0 to 3: all but the RULES and the TAPE, as it is (the RULE IN FORCE, what can be UNDONE,
+     * too); gone back to, it is as it was (these stay)."
+     */
+    private static void imagesKeepClues() {
+        FallSchool s = Checks.school(PIT + ";person 2 0;thing 1 9 9 1;thing 1 9 10 1");
+        s.image(0);
+        s.clue(0, false);
+        s.image(1);
+        s.clue(-1, true);
+        s.clue(0, true);
+        s.clue(1, false);
+        s.image(2);
+        s.back(1);
+        Checks.is("one clue", s.count(10), 1);
+        Checks.is("it did not break: from 1 on", s.from(0, 1), 1);
+        s.back(2);
+        Checks.is("two clues", s.count(10), 2);
+        Checks.is("it broke: from 0 on", s.from(0, 1), 0);
+        s.back(0);
+        Checks.is("none", s.count(10), 0);
+        Checks.is("from everywhere", s.from(0, 0), 20);
     }
 }

@@ -563,6 +563,8 @@ public final class BoundaryTextsTest {
         Checks.ruleFault("break 1<^>1", 0);
         Checks.ruleFault("break 1^!=1", 0);
         Checks.ruleFault("break 1=1^=1", 0);
+        Checks.ruleFault("break 1 ^1=1", 0);
+        Checks.ruleFault("break force ^drop=1", 0);
     }
 
     /** Promise 5, Terms: "SUM: TERM { (+ or -) TERM }. TERM: VALUE { (* or / or %) VALUE }." */
@@ -619,6 +621,10 @@ public final class BoundaryTextsTest {
         Checks.ruleFault("mark ^forces", 0);
         Checks.ruleFault("mark ^forc", 0);
         Checks.ruleFault("mark ^forcedrop", 0);
+        Checks.ruleFault("mark ^forcea", 0);
+        Checks.ruleFault("mark ^forcez", 0);
+        Checks.ruleFault("mark force^`", 0);
+        Checks.ruleFault("mark force^{", 0);
         Checks.ruleFault("mark ^Force", 0);
         Checks.ruleFault("mark force^Drop", 0);
         Checks.ruleFault("break 1=1 ^andnot 1=1", 0);
@@ -733,9 +739,12 @@ public final class BoundaryTextsTest {
         Checks.ruleFault("mark 1" + "+1".repeat(58) + " if 1 ^>= 1", 3);
         Checks.ruleFault("mark 1" + "+1".repeat(57) + " if 1 = ^1", 3);
         Checks.ruleFault("mark 1;".repeat(11) + "mark 1" + "+1".repeat(48) + "+^1", 3);
-        FallSchool s = new FallSchool();
-        Checks.is("a rule of 60", Checks.rule(s, "mark 1" + "+1".repeat(59)), 0);
-        Checks.is("the next one counts anew", Checks.rule(s, "mark 1" + "+1".repeat(59)), 1);
+        FallSchool s = Checks.school(PIT);
+        for (int rule = 0; rule < 6; rule++) {
+            Checks.is("each counts anew", Checks.rule(s, "mark " + rule + "+1".repeat(59)), rule);
+            s.force(rule);
+            Checks.is("all of it holds", s.would(0, 4, 0), 100 - 59 - rule);
+        }
     }
 
     // ---- Terms I, faults
