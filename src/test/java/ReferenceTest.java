@@ -11,8 +11,8 @@ import java.util.function.ToLongFunction;
  * document in the plainest way: whole copies of the state, trees of functions, every way and set tried.
  */
 public final class ReferenceTest {
-    private static final int RUNS = 600;
-    private static final int CALLS = 400;
+    private static final int RUNS = 700;
+    private static final int CALLS = 350;
     private static int wrong = 0;
 
     public static void main(String[] args) {

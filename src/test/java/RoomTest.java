@@ -42,7 +42,7 @@ public final class RoomTest {
         Random random = new Random(5);
         for (int run = 0; run < 400; run++) {
             FallSchool school = run % 4 == 0 ? new FallSchool() : heavy();
-            for (int i = 0; i < 500; i++) {
+            for (int i = 0; i < 460; i++) {
                 Method method = face.get(random.nextInt(face.size()));
                 if (method.getName().equals("terms") && random.nextInt(5) != 0) {
                     continue;
