@@ -28,6 +28,10 @@ public final class RemarksTest {
     private static int wrong = 0;
 
     public static void main(String[] args) throws IOException {
+        if (!Files.isReadable(DOCUMENT)) {
+            System.out.println("there is no " + DOCUMENT + " to find the remarks' words in");
+            return;
+        }
         String document = Files.readString(DOCUMENT);
         try (Stream<Path> files = Files.list(TESTS)) {
             for (Path file : files.filter(path -> path.getFileName().toString().startsWith("Boundary")).sorted().toList()) {
