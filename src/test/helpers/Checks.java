@@ -4,7 +4,7 @@ import java.lang.reflect.Modifier;
 import java.util.Arrays;
 import java.util.Comparator;
 
-/** What the tests of boundaries have in common: texts told to an object, answers compared, all of a class's tests run. */
+/** What several tests have in common: texts told to an object, answers compared, all of a class's tests run. */
 final class Checks {
     static final int LEAST = Integer.MIN_VALUE;
     static final int MOST = Integer.MAX_VALUE;
@@ -27,7 +27,7 @@ final class Checks {
                 ran++;
             }
         }
-        System.out.println(ran + " boundaries, " + wrong + " answers are not as due");
+        System.out.println(ran + " tests, " + wrong + " answers are not as due");
         if (wrong != 0 || ran == 0) {
             System.exit(1);
         }
@@ -106,12 +106,14 @@ final class Checks {
         FallSchool s = new FallSchool();
         is(marked, ground(s, marked.replace("^", "")), -2 - (1 + 8 * marked.indexOf('^') + kind));
         is("no ground by " + marked, s.count(0), 0);
+        is("an empty tape behind " + marked, s.count(13), 0);
     }
 
     static void ruleFault(String marked, int kind) {
         FallSchool s = new FallSchool();
         is(marked, rule(s, marked.replace("^", "")), -2 - (1 + 8 * marked.indexOf('^') + kind));
         is("no rule by " + marked, s.count(7), 0);
+        is("an empty tape behind " + marked, s.count(13), 0);
     }
 
     static void soundRule(String text) {

@@ -63,7 +63,7 @@ public final class RoomTest {
             for (int i = random.nextInt(200); i > 0; i--) {
                 text.append(signs[random.nextInt(signs.length)]);
             }
-            feed(school, text.length() > 400 ? text.substring(0, 400) : text.toString());
+            Checks.tape(school, text.length() > 400 ? text.substring(0, 400) : text.toString());
             int answer = text.charAt(0) == 'b' ? school.rule() : school.ground();
             school.force(0);
             for (int i = 0; i < 30 && answer >= 0; i++) {
@@ -150,25 +150,12 @@ public final class RoomTest {
 
     private static FallSchool heavy() {
         FallSchool school = new FallSchool();
-        feed(school, HEAVY_RULE);
+        Checks.tape(school, HEAVY_RULE);
         is("the heavy rule", school.rule(), 0);
-        feed(school, HEAVY_GROUND);
+        Checks.tape(school, HEAVY_GROUND);
         is("the heavy ground", school.ground(), 48);
         school.force(0);
         return school;
-    }
-
-    private static void feed(FallSchool school, String text) {
-        school.end(0);
-        for (int start = 0; start < text.length(); start += 20) {
-            int[] five = new int[5];
-            for (int i = 0; i < 20; i++) {
-                int sign = start + i < text.length() ? text.charAt(start + i) & 255 : 0;
-                five[i / 4] = five[i / 4] << 8 | sign;
-            }
-            school.feed(five[0], five[1], five[2], five[3], five[4]);
-        }
-        school.end(text.length());
     }
 
     private static void is(String what, long got, long due) {
