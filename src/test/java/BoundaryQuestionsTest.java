@@ -532,7 +532,8 @@ public final class BoundaryQuestionsTest {
         FallSchool first = Checks.school("ground 2 2;row 10;row 23");
         Checks.is("from 2 one can only go to 0, from where the other goes to 1", first.game(2, 0), 0);
         Checks.ground(first, "ground 2 2;row 01;row 23");
-        Checks.is("on another ground 0 is the end", first.game(2, 1), 0);
+        Checks.is("on another ground 0 is the end: left", first.game(1, 1), 3);
+        Checks.is("and up", first.game(2, 1), 0);
         FallSchool left = Checks.school("ground 2 2;row 09;row 99");
         Checks.is("left", left.game(1, 1), 3);
         Checks.is("up", left.game(2, 1), 0);
