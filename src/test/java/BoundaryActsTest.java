@@ -601,6 +601,28 @@ public final class BoundaryActsTest {
         Checks.is("the 21st can't be", s.undo(), -2);
     }
 
+    /** Promise 14, Terms: "The last 20 ACTS can be UNDONE, the last first." */
+    private static void whatWasBrokenAheadOfEachAct() {
+        // A fall breaks the thing, a walk leads back up, and it is mended: of each act what was broken ahead of it.
+        FallSchool s = Checks.school("ground 2 2;row 10;row 99;person 0 0;thing 1 9 1 1");
+        int[] brokenAhead = {0, 1, 1};
+        int[] cellAhead = {0, 1, 0};
+        for (int act = 0; act < 33; act++) {
+            boolean happens = switch (act % 3) {
+                case 0 -> s.fall(0, 4) == 99;
+                case 1 -> s.walk(0, 3) == 0;
+                default -> s.mend(0);
+            };
+            Checks.is("act " + act, happens, true);
+        }
+        for (int act = 32; act > 12; act--) {
+            Checks.is("undo of act " + act, s.undo(), act - 13);
+            Checks.is("broken ahead of act " + act, s.count(9), brokenAhead[act % 3]);
+            Checks.is("where they were ahead of act " + act, s.person(0, 0), cellAhead[act % 3]);
+        }
+        Checks.is("no more", s.undo(), -2);
+    }
+
     /** Of five people and two things, with few calls. */
     private static String places(FallSchool s) {
         return s.person(0, 0) + " " + s.person(3, 0) + " " + s.person(4, 0) + ", " + s.thing(0, 0) + " " + s.thing(1, 0)
